@@ -1250,7 +1250,7 @@ public final class RollerLease {
         private int kind;
         private int start;
         private int end;
-        // The first byte of the token that was taken last.
+        // The first byte of the number that was taken last.
         private int taken;
 
         Parser(byte[] bytes, int length, Laundry laundry) {
@@ -1324,7 +1324,6 @@ public final class RollerLease {
         }
 
         private void take() {
-            taken = start;
             scanFrom(end);
         }
 

@@ -17,6 +17,8 @@ public final class ChangeTest {
         promise64And65SavedStates();
         promise65RestoredAfterManyChanges();
         aStateHoldsEverything();
+        undoneBundlesAreGone();
+        theFullLaundry();
         Check.finish("ChangeTest");
     }
 
@@ -255,5 +257,59 @@ public final class ChangeTest {
                 x.advance(1);
             }
         }
+    }
+
+    private static void undoneBundlesAreGone() {
+        RollerLease x = Check.load("boiler 99 9;roller 1 5 1 1;customer a;time 0 0 0 9");
+        x.addBundle(0, 1, 2, 1, 0);
+        x.saveState(0);
+        x.advance(1);
+        Check.equal("late", x.lateCount(), 1);
+        Check.exact("scorched", x.averageScorch(), 1.0f);
+        x.undo();
+        x.undo();
+        Check.equal("no bundle is late", x.lateCount(), 0);
+        Check.exact("no bundle is scorched", x.averageScorch(), 0.0f);
+        Check.equal("no bundle has the tag", x.findBundle(1), -1);
+        x.addBundle(0, 2, 9, 9, 99);
+        x.advance(2);
+        x.restoreState(0);
+        x.advance(1);
+        Check.equal("the deadline of the saved bundle", x.bundleDeadline(0), 0);
+        Check.equal("the limit of the saved bundle", x.bundleScorch(0), 1);
+        Check.equal("the tag of the saved bundle", x.bundleTag(0), 1);
+    }
+
+    private static void theFullLaundry() {
+        RollerLease x = Check.load("boiler 50 20;roller 1 1 1 1;roller 2 2 2 2;roller 3 3 3 3;roller 4 4 4 4;roller 5 5 5 5;"
+                + "roller 6 6 6 6;customer a;customer b;customer c;customer d;customer e;customer f;holiday 9 9;holiday 8 8;"
+                + "holiday 7 7;holiday 6 6;rate 1 1 50;rate 2 2 60;rate 3 3 70;rate 4 4 80;order 5 4 3 2 1 0");
+        for (int i = 0; i < 16; i++) {
+            Check.equal("a bundle", x.addBundle(i % 6, 90 - i, 9, 1 + i % 9, i), i);
+            Check.equal("a lease", i % 2 == 0 ? x.leaseByTime(i % 6, i % 6, 10 * i, 9) : x.leaseByLength(i % 6, i % 6, 10 * i, 9), i);
+        }
+        String before = Check.dump(x);
+        x.saveState(0);
+        Check.equal("a new obstacle", x.leaseObstacle(0, 500, 1), 4);
+        x.advance(200);
+        int finished = 0;
+        for (int b = 0; b < 16; b++) {
+            finished += x.bundleFinish(b) != -1 ? 1 : 0;
+            Check.equal("predictedFinish", x.predictedFinish(b), x.bundleFinish(b));
+            Check.equal("finishIfAllOpen", x.finishIfAllOpen(b), x.bundleFinish(b));
+        }
+        // Three minutes of customer a's leases, at a yard a minute, are holidays: 3 yards are left of the first bundle.
+        Check.equal("finished bundles", finished, 15);
+        Check.equal("yards of the first bundle", x.bundleYardsLeft(0), 3);
+        Check.equal("late bundles", x.lateCount(), 16);
+        Check.isTrue("scorched bundles", x.averageScorch() > 0.0f);
+        Check.equal("imbalance", x.imbalance(), 0);
+        Check.equal("undo", x.undo(), 7);
+        Check.same("undone", Check.dump(x), before);
+        x.saveState(1);
+        Check.equal("the last lease is cancelled", x.cancelLease(15), 15);
+        Check.equal("restoreState", x.restoreState(1), 0);
+        Check.same("restored", Check.dump(x), before);
+        Check.equal("the last roller", x.cheapestRoller(1), 0);
     }
 }

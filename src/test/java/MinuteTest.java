@@ -304,6 +304,8 @@ public final class MinuteTest {
         Check.equal("without a discount", x.advance(1), 11);
         Check.equal("the bill of the other", x.bill(1), 11);
         Check.equal("revenue", x.revenue(), 27 + 66 + 11);
+        RollerLease many = Check.load("boiler 99 9;roller 9 1 1 50;customer a;bundle 0 0 99 9 99;length 0 0 0 18;advance 1");
+        Check.equal("without a rate all of it", many.revenue(), 450);
         RollerLease half = Check.load("boiler 99 9;roller 4 1 1 0;customer a;discount 0 50;time 0 0 0 9;advance 9");
         Check.equal("a half is rounded down", half.revenue(), 0);
     }
@@ -346,6 +348,9 @@ public final class MinuteTest {
             Check.equal("deadline", x.bundleDeadline(b), bundles[b][3]);
             Check.equal("finish", x.bundleFinish(b), -1);
         }
+        RollerLease least = Check.load("boiler 99 9;roller 4 9 10 0;customer a;bundle 0 1 5 9 99;split 0 1;split 0 1");
+        Check.equal("the least tag of all", least.bundleTag(1), 0);
+        Check.equal("the next one", least.bundleTag(2), 2);
         // The heat limit of 3 goes along, the assignment and the scorched minutes do not.
         RollerLease y = Check.load("boiler 99 9;roller 4 9 0 0;roller 4 9 0 0;customer b;bundle 0 0 30 3 77;assign 0 0;time 0 0 0 9;"
                 + "advance 1;split 0 12;time 0 1 1 9");

@@ -14,6 +14,8 @@ public final class SetupTest {
         promise2Append();
         promise3ParseSetup();
         promise3LoadsTheItems();
+        promise3LeavesNothingOver();
+        promise3ParsesNoByteMore();
         promise4To6LatestError();
         promise6Reasons();
         promise7BufferLength();
@@ -88,6 +90,7 @@ public final class SetupTest {
 
         x.advance(7);
         x.setValve(0, false);
+        x.saveState(0);
         x.saveState(1);
         int written = x.writeBills();
         String before = Check.dump(x);
@@ -125,7 +128,7 @@ public final class SetupTest {
         Check.equal("deadline", x.bundleDeadline(0), 999);
         Check.equal("lease by length: end", x.leaseEnd(0), 8);
         Check.equal("lease by length: yards", x.leaseYardsLeft(0), 19);
-        // A second setup starts from nothing of the first one.
+        // Nothing is left over of a setup before.
         Check.accepts(x, "boiler 10 0;roller 1 1 10 1;customer zoe;bundle 0 99 9 1 9;time 0 0 0 9;cancel 0;"
                 + "time 0 0 1 9;advance 2");
         Check.isTrue("a valve is open at first", x.isValveOpen(0));
@@ -133,6 +136,53 @@ public final class SetupTest {
         Check.equal("no rate, discount, holiday, fee or service is left over", x.revenue(), 10);
         Check.equal("the bill", x.bill(0), 10);
         Check.equal("the yards", x.bundleYardsLeft(0), 8);
+    }
+
+    private static void promise3LeavesNothingOver() {
+        String rich = "boiler 30 1;roller 2 9 9 9;roller 3 9 9 9;customer zoe;customer yve;bundle 0 9 90 1 0;bundle 0 8 90 1 0;"
+                + "time 0 0 0 60;time 0 1 0 60;service 0 90;service 1 1;pause 9;holiday 4 5;rate 0 300 200;order 1 0;fee 99 200;"
+                + "discount 0 20;assign 0 1;advance 9;close 1";
+        String plain = "boiler 20 9;roller 1 9 9 9;roller 2 9 9 9;customer ann;customer bo;bundle 0 9 50 9 9;bundle 0 8 50 9 9;"
+                + "time 0 0 0 60;time 0 1 0 60;time 1 0 300 9;cancel 2;service 0 4;pause 3";
+        leavesNothingOver(rich, plain);
+        leavesNothingOver(rich, plain.replace(";pause 3", ""));
+    }
+
+    private static void leavesNothingOver(String rich, String plain) {
+        RollerLease later = Check.load(rich);
+        for (int round = 0; round < 3; round++) {
+            later.advance(7);
+            Check.dump(later);
+            // Twice, since a setup and the one before are held side by side.
+            Check.accepts(later, rich);
+            Check.accepts(later, rich);
+            Check.accepts(later, plain);
+            RollerLease once = Check.load(plain);
+            Check.equal("bills", later.writeBills(), once.writeBills());
+            for (int minute = 0; minute < 20; minute++) {
+                Check.same("the same setup in minute " + minute, Check.dump(later), Check.dump(once));
+                later.advance(1);
+                once.advance(1);
+            }
+        }
+    }
+
+    private static void promise3ParsesNoByteMore() {
+        RollerLease x = new RollerLease();
+        Check.append(x, BASE + "9");
+        x.parseSetup(BASE.length());
+        Check.equal("the digit behind the parsed bytes", x.leaseEnd(0), 1);
+        Check.append(x, "boiler 10 0;roller 1 1 0 0;customer ab");
+        x.parseSetup(37);
+        Check.equal("the letter behind the parsed bytes", x.customerLetter(0, 1), -1);
+        Check.append(x, BASE + "  x");
+        Check.equal("the word behind the parsed bytes", x.parseSetup(BASE.length() + 2), 1);
+        String[] lasts = {";customer b", ";pause 12", ";repeat 1(pause 1)"};
+        for (String last : lasts) {
+            Check.accepts(x, BASE + " ".repeat(500 - BASE.length() - last.length()) + last);
+        }
+        Check.accepts(x, BASE + " ".repeat(500 - BASE.length()));
+        Check.refuses(SYNTAX, BASE + " ".repeat(499 - BASE.length()) + ";^");
     }
 
     private static void promise4To6LatestError() {
@@ -261,6 +311,9 @@ public final class SetupTest {
         Check.refuses(SYNTAX, BASE + ";repeat 2 (^)");
         Check.refuses(SYNTAX, BASE + ";repeat 2 (pause 1^");
         Check.refuses(SYNTAX, BASE + ";repeat 2 (pause 1;^)");
+        Check.refuses(SYNTAX, BASE + ";repeat 2 (pause 1^]");
+        Check.refuses(SYNTAX, BASE + ";repeat 2 ^[pause 1)");
+        Check.refuses(SYNTAX, BASE + "^,pause 1");
         Check.refuses(SYNTAX, BASE + ";repeat 2 (pause 1 ^(");
         Check.refuses(SYNTAX, BASE + ";repeat 2 (pause 1)^)");
         Check.refuses(SYNTAX, BASE + ";repeat 2 (pause 1) ^pause 1");
@@ -283,6 +336,15 @@ public final class SetupTest {
                 Check.refuses(SYNTAX, BASE + ";" + shorter + "^;pause 1");
                 Check.refuses(SYNTAX, BASE + ";" + shorter + " ^x");
             }
+        }
+        for (String item : items) {
+            int letters = item.indexOf(' ');
+            for (int letter = 0; letter < letters; letter++) {
+                char other = item.charAt(letter) == 'q' ? 'z' : 'q';
+                Check.refuses(SYNTAX, BASE + ";^" + item.substring(0, letter) + other + item.substring(letter + 1));
+            }
+            Check.refuses(SYNTAX, BASE + ";^" + item.substring(0, letters - 1) + item.substring(letters));
+            Check.refuses(SYNTAX, BASE + ";^" + item.substring(0, letters) + "s" + item.substring(letters));
         }
         Check.accepts(new RollerLease(), BASE + ";close 0;open 0");
         Check.refuses(SYNTAX, BASE + ";close 0;open ^a");
@@ -395,6 +457,10 @@ public final class SetupTest {
                 + "roller 1 1 0 0;customer a;customer b;customer c;customer d;customer e;customer f";
         Check.accepts(new RollerLease(), six);
         Check.refuses(LIMIT, six + ";^roller x");
+        Check.accepts(new RollerLease(), six + ";order 5 4 3 2 1 0;order 0 1 2 3 4 5");
+        Check.refuses(CONFLICT, six + ";order 0 1 2 3 4 5 ^0");
+        Check.refuses(RANGE, six + ";order 0 1 2 3 4 5 ^6");
+        Check.refuses(CONFLICT, six + ";order 0 1 2 3 4 5 ^3 9");
         Check.refuses(LIMIT, six + ";^customer a");
         Check.refuses(LIMIT, six + ";^roller");
         StringBuilder bundles = new StringBuilder("boiler 10 0;roller 1 1 0 0;customer a");
