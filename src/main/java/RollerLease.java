@@ -1398,11 +1398,11 @@ public final class RollerLease {
         }
 
         private String textHere() {
-            StringBuilder text = new StringBuilder();
-            for (int i = start; i < end; i++) {
-                text.append((char) bytes[i]);
+            char[] letters = new char[end - start];
+            for (int i = 0; i < letters.length; i++) {
+                letters[i] = (char) bytes[start + i];
             }
-            return text.toString();
+            return new String(letters);
         }
 
         // -- the setup and its lists of items
