@@ -64,6 +64,13 @@ final class Check {
         }
     }
 
+    /** The call throws, and afterwards everything that the class tells is as before: section 7. */
+    static void refused(RollerLease x, String what, Class<?> due, Call call) {
+        String before = everything(x);
+        throwsExactly(what, due, call);
+        same("all there is behind " + what, everything(x), before);
+    }
+
     static void report(String problem) {
         wrong++;
         System.out.println("  " + problem);
@@ -130,6 +137,32 @@ final class Check {
         }
         throwsIndex("the byte behind the output", () -> x.outputByte(length));
         return text.toString();
+    }
+
+    /** The simulation, if there is one, and all that does not belong to it. */
+    static String everything(RollerLease x) {
+        StringBuilder s = new StringBuilder();
+        s.append("buffer ").append(x.bufferLength()).append(" error ").append(x.parseErrorCode()).append(',');
+        s.append(x.parseErrorPosition()).append(',').append(x.conflictReason()).append(" changes ").append(x.undoCount());
+        s.append(" output ").append(wholeOutput(x)).append(" state ");
+        try {
+            x.minute();
+        } catch (IllegalStateException e) {
+            return s.append("none").toString();
+        }
+        return s.append(dump(x)).toString();
+    }
+
+    private static String wholeOutput(RollerLease x) {
+        StringBuilder text = new StringBuilder();
+        try {
+            for (int i = 0; i < 1000; i++) {
+                text.append((char) x.outputByte(i));
+            }
+        } catch (IndexOutOfBoundsException e) {
+            return text.toString();
+        }
+        return text.append(" and no end").toString();
     }
 
     /** All that the class tells of its simulation, to compare two states. */

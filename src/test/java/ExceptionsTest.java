@@ -12,22 +12,41 @@ public final class ExceptionsTest {
 
     public static void main(String[] args) {
         beforeASetup();
+        withoutAnything();
+        fullOfEverything();
+        inTheMidstOfASimulation();
+        Check.finish("ExceptionsTest");
+    }
+
+    private static void inTheMidstOfASimulation() {
         x = Check.load(SETUP);
-        x.setValve(1, true);
+        String saved = Check.dump(x);
+        x.saveState(0);
+        String[] states = new String[8];
+        for (int change = 0; change < 8; change++) {
+            states[change] = Check.dump(x);
+            x.setRefill(change + 10);
+        }
         x.writeBundle(0);
-        String before = Check.dump(x);
-        withoutSuchARoller();
-        withoutSuchACustomer();
-        withoutSuchALease();
-        withoutSuchABundle();
+        x.append(1, 2, 3, 4, 5);
+        rollerIndices(3);
+        customerIndices(2);
+        leaseIndices(5);
+        bundleIndices(4);
         outOfRange();
         leaseObstacles();
         bundlesThatDoNotFit();
         slots();
-        Check.same("calls that throw change nothing", Check.dump(x), before);
+        outputBytes();
         Check.same("calls that throw leave the output", Check.output(x, 5), "7:4**");
-        Check.equal("calls that throw are no changes", x.undoCount(), 1);
-        Check.finish("ExceptionsTest");
+        for (int change = 7; change >= 0; change--) {
+            Check.equal("calls that throw are no changes", x.undo(), change);
+            Check.same("calls that throw leave the changes", Check.dump(x), states[change]);
+        }
+        Check.refused(x, "undo of nothing", IllegalStateException.class, x::undo);
+        Check.equal("calls that throw leave slot 0", x.restoreState(0), 3);
+        Check.same("the state in slot 0", Check.dump(x), saved);
+        Check.refused(x, "undo behind restoreState", IllegalStateException.class, x::undo);
     }
 
     private static void beforeASetup() {
@@ -52,73 +71,86 @@ public final class ExceptionsTest {
             () -> n.setRefill(-1), () -> n.saveState(2), n::undo, () -> n.restoreState(0), () -> n.restoreState(1),
         };
         for (int i = 0; i < calls.length; i++) {
-            Check.throwsState("call " + i + " before a setup", calls[i]);
+            Check.refused(n, "call " + i + " before a setup", IllegalStateException.class, calls[i]);
         }
-        Check.throwsIndex("a slot that is none, before a setup", () -> n.restoreState(2));
-        Check.throwsIndex("a slot that is none, before a setup", () -> n.restoreState(-1));
-        Check.throwsIndex("a byte that is none, before a setup", () -> n.outputByte(0));
+        Check.refused(n, "slot 2, before a setup", IndexOutOfBoundsException.class, () -> n.restoreState(2));
+        Check.refused(n, "slot -1, before a setup", IndexOutOfBoundsException.class, () -> n.restoreState(-1));
+        Check.refused(n, "a byte that is none, before a setup", IndexOutOfBoundsException.class, () -> n.outputByte(0));
         Check.equal("undoCount before a setup", n.undoCount(), 0);
+    }
+
+    /** A laundry with the least there may be: without leases and bundles, their index 0 is none already. */
+    private static void withoutAnything() {
+        x = Check.load("boiler 10 0;roller 1 1 0 0;customer a");
+        rollerIndices(1);
+        customerIndices(1);
+        leaseIndices(0);
+        bundleIndices(0);
+        Check.refused(x, "an empty slot", IllegalStateException.class, () -> x.restoreState(0));
+        Check.refused(x, "an empty slot", IllegalStateException.class, () -> x.restoreState(1));
+        Check.refused(x, "undo of nothing", IllegalStateException.class, x::undo);
+        Check.refused(x, "a byte of no output", IndexOutOfBoundsException.class, () -> x.outputByte(0));
     }
 
     private static void indices(String what, int count, IntFunction<Check.Call> call) {
         int[] none = {-1, count, count + 1, MIN, MAX};
         for (int index : none) {
-            Check.throwsIndex(what + " of " + index, call.apply(index));
+            Check.refused(x, what + " of " + index, IndexOutOfBoundsException.class, call.apply(index));
         }
     }
 
-    private static void withoutSuchARoller() {
-        indices("rollerSpeed", 3, r -> () -> x.rollerSpeed(r));
-        indices("rollerHeat", 3, r -> () -> x.rollerHeat(r));
-        indices("minutePrice", 3, r -> () -> x.minutePrice(r));
-        indices("yardPrice", 3, r -> () -> x.yardPrice(r));
-        indices("isValveOpen", 3, r -> () -> x.isValveOpen(r) ? 1 : 0);
-        indices("stallCount", 3, r -> () -> x.stallCount(r));
-        indices("activeLease", 3, r -> () -> x.activeLease(r));
-        indices("idleReason", 3, r -> () -> x.idleReason(r));
-        indices("nextBundle", 3, r -> () -> x.nextBundle(r));
-        indices("utilization", 3, r -> () -> (long) x.utilization(r));
-        indices("leaseObstacle", 3, r -> () -> x.leaseObstacle(r, 0, 0));
-        indices("firstFreeStart", 3, r -> () -> x.firstFreeStart(r, 0, 0));
-        indices("writeSchedule", 3, r -> () -> x.writeSchedule(r, -1));
-        indices("leaseByTime", 3, r -> () -> x.leaseByTime(0, r, 0, 0));
-        indices("leaseByLength", 3, r -> () -> x.leaseByLength(0, r, 0, 0));
-        indices("setValve", 3, r -> () -> x.setValve(r, false) ? 1 : 0);
+    private static void rollerIndices(int count) {
+        indices("rollerSpeed", count, r -> () -> x.rollerSpeed(r));
+        indices("rollerHeat", count, r -> () -> x.rollerHeat(r));
+        indices("minutePrice", count, r -> () -> x.minutePrice(r));
+        indices("yardPrice", count, r -> () -> x.yardPrice(r));
+        indices("isValveOpen", count, r -> () -> x.isValveOpen(r) ? 1 : 0);
+        indices("stallCount", count, r -> () -> x.stallCount(r));
+        indices("activeLease", count, r -> () -> x.activeLease(r));
+        indices("idleReason", count, r -> () -> x.idleReason(r));
+        indices("nextBundle", count, r -> () -> x.nextBundle(r));
+        indices("utilization", count, r -> () -> (long) x.utilization(r));
+        indices("leaseObstacle", count, r -> () -> x.leaseObstacle(r, 0, 0));
+        indices("firstFreeStart", count, r -> () -> x.firstFreeStart(r, 0, 0));
+        indices("writeSchedule", count, r -> () -> x.writeSchedule(r, -1));
+        indices("leaseByTime", count, r -> () -> x.leaseByTime(0, r, 0, 0));
+        indices("leaseByLength", count, r -> () -> x.leaseByLength(0, r, 0, 0));
+        indices("setValve", count, r -> () -> x.setValve(r, false) ? 1 : 0);
     }
 
-    private static void withoutSuchACustomer() {
-        indices("customerLetter", 2, c -> () -> x.customerLetter(c, -1));
-        indices("bill", 2, c -> () -> x.bill(c));
-        indices("leaseByTime", 2, c -> () -> x.leaseByTime(c, 0, 0, 0));
-        indices("leaseByLength", 2, c -> () -> x.leaseByLength(c, 0, 0, 0));
-        indices("addBundle", 2, c -> () -> x.addBundle(c, -1, 0, 0, -1));
+    private static void customerIndices(int count) {
+        indices("customerLetter", count, c -> () -> x.customerLetter(c, -1));
+        indices("bill", count, c -> () -> x.bill(c));
+        indices("leaseByTime", count, c -> () -> x.leaseByTime(c, 0, 0, 0));
+        indices("leaseByLength", count, c -> () -> x.leaseByLength(c, 0, 0, 0));
+        indices("addBundle", count, c -> () -> x.addBundle(c, -1, 0, 0, -1));
     }
 
-    private static void withoutSuchALease() {
-        indices("leaseCustomer", 5, l -> () -> x.leaseCustomer(l));
-        indices("leaseRoller", 5, l -> () -> x.leaseRoller(l));
-        indices("leaseStart", 5, l -> () -> x.leaseStart(l));
-        indices("leaseEnd", 5, l -> () -> x.leaseEnd(l));
-        indices("leaseYardsLeft", 5, l -> () -> x.leaseYardsLeft(l));
-        indices("cancelLease", 5, l -> () -> x.cancelLease(l));
+    private static void leaseIndices(int count) {
+        indices("leaseCustomer", count, l -> () -> x.leaseCustomer(l));
+        indices("leaseRoller", count, l -> () -> x.leaseRoller(l));
+        indices("leaseStart", count, l -> () -> x.leaseStart(l));
+        indices("leaseEnd", count, l -> () -> x.leaseEnd(l));
+        indices("leaseYardsLeft", count, l -> () -> x.leaseYardsLeft(l));
+        indices("cancelLease", count, l -> () -> x.cancelLease(l));
     }
 
-    private static void withoutSuchABundle() {
-        indices("bundleOwner", 4, b -> () -> x.bundleOwner(b));
-        indices("bundleTag", 4, b -> () -> x.bundleTag(b));
-        indices("bundleYardsLeft", 4, b -> () -> x.bundleYardsLeft(b));
-        indices("bundleDeadline", 4, b -> () -> x.bundleDeadline(b));
-        indices("bundleFinish", 4, b -> () -> x.bundleFinish(b));
-        indices("bundleScorch", 4, b -> () -> x.bundleScorch(b));
-        indices("predictedFinish", 4, b -> () -> x.predictedFinish(b));
-        indices("finishIfAllOpen", 4, b -> () -> x.finishIfAllOpen(b));
-        indices("writeBundle", 4, b -> () -> x.writeBundle(b));
+    private static void bundleIndices(int count) {
+        indices("bundleOwner", count, b -> () -> x.bundleOwner(b));
+        indices("bundleTag", count, b -> () -> x.bundleTag(b));
+        indices("bundleYardsLeft", count, b -> () -> x.bundleYardsLeft(b));
+        indices("bundleDeadline", count, b -> () -> x.bundleDeadline(b));
+        indices("bundleFinish", count, b -> () -> x.bundleFinish(b));
+        indices("bundleScorch", count, b -> () -> x.bundleScorch(b));
+        indices("predictedFinish", count, b -> () -> x.predictedFinish(b));
+        indices("finishIfAllOpen", count, b -> () -> x.finishIfAllOpen(b));
+        indices("writeBundle", count, b -> () -> x.writeBundle(b));
     }
 
     private static void range(String what, int least, int most, IntFunction<Check.Call> call) {
         int[] outside = {least - 1, most + 1, MIN, MAX};
         for (int value : outside) {
-            Check.throwsArgument(what + " with " + value, call.apply(value));
+            Check.refused(x, what + " with " + value, IllegalArgumentException.class, call.apply(value));
         }
     }
 
@@ -139,43 +171,56 @@ public final class ExceptionsTest {
         range("setRefill", 0, 50, r -> () -> x.setRefill(r));
     }
 
+    private static void refused(String what, Check.Call call) {
+        Check.refused(x, what, IllegalArgumentException.class, call);
+    }
+
     private static void leaseObstacles() {
-        Check.throwsArgument("by time, before now", () -> x.leaseByTime(0, 0, 2, 1));
-        Check.throwsArgument("by time, far before now", () -> x.leaseByTime(0, 0, MIN, 200));
-        Check.throwsArgument("by time, too late", () -> x.leaseByTime(0, 0, 801, 200));
-        Check.throwsArgument("by time, far too late", () -> x.leaseByTime(0, 0, MAX, 200));
-        Check.throwsArgument("by time, taken", () -> x.leaseByTime(0, 0, 4, 1));
-        Check.throwsArgument("by length, before now", () -> x.leaseByLength(0, 1, 2, 1));
-        Check.throwsArgument("by length, far before now", () -> x.leaseByLength(0, 1, MIN, 200));
-        Check.throwsArgument("by length, too late", () -> x.leaseByLength(0, 1, 901, 199));
-        Check.throwsArgument("by length, far too late", () -> x.leaseByLength(0, 1, MAX, 200));
-        Check.throwsArgument("by length, taken", () -> x.leaseByLength(0, 0, 5, 7));
-        Check.throwsArgument("a lease that has begun", () -> x.cancelLease(0));
-        Check.throwsArgument("a lease that has begun", () -> x.cancelLease(2));
-        RollerLease full = Check.load("boiler 10 0;roller 1 1 0 0;customer a");
-        for (int lease = 0; lease < 16; lease++) {
-            Check.equal("a lease", full.leaseByTime(0, 0, lease, 1), lease);
-        }
-        Check.throwsArgument("a 17th lease", () -> full.leaseByTime(0, 0, 50, 1));
-        Check.throwsArgument("a 17th lease", () -> full.leaseByLength(0, 0, 50, 1));
-        Check.equal("the number of leases", full.leaseCount(), 16);
+        refused("by time, before now", () -> x.leaseByTime(0, 0, 2, 1));
+        refused("by time, far before now", () -> x.leaseByTime(0, 0, MIN, 200));
+        refused("by time, too late", () -> x.leaseByTime(0, 0, 801, 200));
+        refused("by time, far too late", () -> x.leaseByTime(0, 0, MAX, 200));
+        refused("by time, taken", () -> x.leaseByTime(0, 0, 4, 1));
+        refused("by length, before now", () -> x.leaseByLength(0, 1, 2, 1));
+        refused("by length, far before now", () -> x.leaseByLength(0, 1, MIN, 200));
+        refused("by length, too late", () -> x.leaseByLength(0, 1, 901, 199));
+        refused("by length, far too late", () -> x.leaseByLength(0, 1, MAX, 200));
+        refused("by length, taken", () -> x.leaseByLength(0, 0, 5, 7));
+        refused("a lease that has begun", () -> x.cancelLease(0));
+        refused("a lease that has begun", () -> x.cancelLease(2));
     }
 
     private static void bundlesThatDoNotFit() {
-        Check.throwsArgument("a tag in use", () -> x.addBundle(1, 7, 1, 1, 1));
-        Check.throwsArgument("the tag of a finished bundle", () -> x.addBundle(1, 3, 1, 1, 1));
-        RollerLease full = Check.load("boiler 10 0;roller 1 1 0 0;customer a");
-        for (int bundle = 0; bundle < 16; bundle++) {
-            Check.equal("a bundle", full.addBundle(0, 99 - bundle, 1, 1, 1), bundle);
+        refused("a tag in use", () -> x.addBundle(1, 7, 1, 1, 1));
+        refused("the tag of a finished bundle", () -> x.addBundle(1, 3, 1, 1, 1));
+    }
+
+    /** A laundry with the most there may be. */
+    private static void fullOfEverything() {
+        x = Check.load("boiler 10 0;roller 1 1 0 0;roller 1 1 0 0;roller 1 1 0 0;roller 1 1 0 0;roller 1 1 0 0;roller 1 1 0 0;"
+                + "customer a;customer b;customer c;customer d;customer e;customer f");
+        for (int i = 0; i < 16; i++) {
+            Check.equal("a lease", x.leaseByTime(5, 5, i, 1), i);
+            Check.equal("a bundle", x.addBundle(5, 99 - i, 1, 1, 1), i);
         }
-        Check.throwsArgument("a 17th bundle", () -> full.addBundle(0, 0, 1, 1, 1));
-        Check.equal("the number of bundles", full.bundleCount(), 16);
+        rollerIndices(6);
+        customerIndices(6);
+        leaseIndices(16);
+        bundleIndices(16);
+        refused("a 17th lease", () -> x.leaseByTime(0, 0, 50, 1));
+        refused("a 17th lease", () -> x.leaseByLength(0, 0, 50, 1));
+        refused("a 17th bundle", () -> x.addBundle(0, 0, 1, 1, 1));
+        Check.equal("the number of leases", x.leaseCount(), 16);
+        Check.equal("the number of bundles", x.bundleCount(), 16);
     }
 
     private static void slots() {
         indices("saveState", 2, s -> () -> x.saveState(s));
         indices("restoreState", 2, s -> () -> x.restoreState(s));
-        Check.throwsState("slot 0", () -> x.restoreState(0));
-        Check.throwsState("slot 1", () -> x.restoreState(1));
+        Check.refused(x, "an empty slot", IllegalStateException.class, () -> x.restoreState(1));
+    }
+
+    private static void outputBytes() {
+        indices("outputByte", 5, i -> () -> x.outputByte(i));
     }
 }

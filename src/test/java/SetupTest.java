@@ -1,4 +1,4 @@
-/** Promises 1 to 7 and section 6: the input buffer, the grammar, the ranges and the four error codes. */
+/** Promises 1 to 7 and section 6: the input buffer, the grammar and the four error codes. */
 public final class SetupTest {
     private static final int SYNTAX = 1;
     private static final int RANGE = 2;
@@ -22,7 +22,6 @@ public final class SetupTest {
         tokens();
         grammar();
         grammarOfItems();
-        ranges();
         conflicts();
         limits();
         smallestCode();
@@ -350,75 +349,6 @@ public final class SetupTest {
         Check.refuses(SYNTAX, BASE + ";close 0;open ^a");
         Check.refuses(SYNTAX, BASE + ";bundle 0 1 1 1 0;merge 0^");
         Check.refuses(SYNTAX, BASE + ";bundle 0 1 1 1 0;merge 0 1 ^1");
-    }
-
-    private static void ranges() {
-        inRange("boiler @ 0;roller 1 1 0 0;customer a", 10, 500);
-        inRange("boiler 10 @;roller 1 1 0 0;customer a", 0, 50);
-        inRange(BASE + ";roller @ 1 0 0", 1, 9);
-        inRange(BASE + ";roller 1 @ 0 0", 1, 9);
-        inRange(BASE + ";roller 1 1 @ 0", 0, 50);
-        inRange(BASE + ";roller 1 1 0 @", 0, 50);
-        inRange(BASE + ";customer b;bundle @ 1 1 1 0", 0, 1);
-        inRange(BASE.replace("bundle 0 0", "bundle 0 50") + ";bundle 0 @ 1 1 0", 0, 99);
-        inRange(BASE + ";bundle 0 1 @ 1 0", 1, 200);
-        inRange(BASE + ";bundle 0 1 1 @ 0", 1, 9);
-        inRange(BASE + ";bundle 0 1 1 1 @", 0, 999);
-        inRange(BASE + ";customer b;time @ 0 1 1", 0, 1);
-        inRange(BASE + ";roller 1 1 0 0;time 0 @ 1 1", 0, 1);
-        inRange(BASE + ";roller 1 1 0 0;time 0 1 @ 1", 0, 999);
-        inRange(BASE + ";time 0 0 1 @", 1, 200);
-        inRange(BASE + ";customer b;length @ 0 1 1", 0, 1);
-        inRange(BASE + ";roller 1 1 0 0;length 0 @ 1 1", 0, 1);
-        inRange(BASE + ";roller 1 1 0 0;length 0 1 @ 1", 0, 999);
-        inRange(BASE + ";length 0 0 1 @", 1, 200);
-        inRange(BASE + ";roller 1 1 0 0;close @", 0, 1);
-        inRange(BASE + ";roller 1 1 0 0;close 0;close 1;open @", 0, 1);
-        inRange(BASE + ";time 0 0 1 1;cancel @", 0, 1);
-        inRange(BASE + ";customer b;discount @ 0", 0, 1);
-        inRange(BASE + ";discount 0 @", 0, 50);
-        inRange(BASE + ";roller 1 1 0 0;service @ 0", 0, 1);
-        inRange(BASE + ";service 0 @", 0, 99);
-        inRange(BASE + ";pause @", 0, 20);
-        inRange(BASE + ";holiday @ 999", 0, 999);
-        inRange(BASE + ";holiday 5 @", 5, 999);
-        inRange(BASE + ";roller 1 1 0 0;order @", 0, 1);
-        inRange(BASE + ";roller 1 1 0 0;roller 1 1 0 0;order 0 @", 1, 2);
-        inRange(BASE + ";fee @ 0", 0, 99);
-        inRange(BASE + ";fee 0 @", 0, 200);
-        inRange(BASE + ";bundle 0 1 9 1 0;split @ 1", 0, 1);
-        inRange(BASE + ";split 0 @", 1, 199);
-        Check.refuses(RANGE, BASE + ";split 0 ^201");
-        inRange(BASE + ";bundle 0 1 9 1 0;bundle 0 2 9 1 0;merge @ 0", 1, 2);
-        inRange(BASE + ";bundle 0 1 9 1 0;bundle 0 2 9 1 0;merge 0 @", 1, 2);
-        inRange(BASE + ";bundle 0 1 9 1 0;assign @ 0", 0, 1);
-        inRange(BASE + ";roller 1 1 0 0;assign 0 @", 0, 1);
-        inRange(BASE + ";rate @ 999 100", 0, 999);
-        inRange(BASE + ";rate 7 @ 100", 7, 999);
-        inRange(BASE + ";rate 0 0 @", 50, 200);
-        inRange(BASE + ";time 0 0 1 1;copy @ 9", 0, 1);
-        inRange(BASE + ";copy 0 @", 1, 999);
-        inRange(BASE + ";advance @", 1, 300);
-        inRange(BASE + ";repeat @ (pause 1)", 1, 5);
-        Check.refuses(RANGE, "boiler 10 0;bundle ^0 0 1 1 0");
-        Check.refuses(RANGE, "boiler 10 0;customer a;time 0 ^0 0 1");
-        Check.refuses(RANGE, "boiler 10 0;cancel ^0");
-        Check.refuses(RANGE, "boiler 10 0;split ^0 1");
-        Check.refuses(RANGE, "boiler 10 0;customer ^abcdefg");
-        Check.refuses(RANGE, "boiler 10 0;customer ^abcdefgh");
-        Check.accepts(new RollerLease(), BASE + ";customer abcdef");
-    }
-
-    /** The sign @ stands for a number: the least and the greatest are accepted, those beside them are not. */
-    private static void inRange(String setup, int least, int most) {
-        Check.accepts(new RollerLease(), setup.replace("@", "" + least));
-        Check.accepts(new RollerLease(), setup.replace("@", "" + most));
-        if (least > 0 && !setup.contains("merge") && !setup.contains("copy 0") && !setup.contains("order 0")) {
-            Check.refuses(RANGE, setup.replace("@", "^" + (least - 1)));
-        }
-        if (most < 999 && !setup.contains("split 0 @")) {
-            Check.refuses(RANGE, setup.replace("@", "^" + (most + 1)));
-        }
     }
 
     private static void conflicts() {
