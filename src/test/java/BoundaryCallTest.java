@@ -15,6 +15,7 @@ public final class BoundaryCallTest {
         promise13NothingAndAll();
         promises14To19FirstAndLastRoller();
         promise20NoStall();
+        promise20StallsOfAnotherState();
         promise21FirstAndLastLease();
         promises22And23TheFirstReasonThatApplies();
         promise24NoneAndAllMinutes();
@@ -123,6 +124,23 @@ public final class BoundaryCallTest {
         x.setValve(0, false);
         x.advance(5);
         Check.equal("a closed valve", x.stallCount(0), 3);
+    }
+
+    private static void promise20StallsOfAnotherState() {
+        RollerLease x = Check.load("boiler 10 0;roller 1 9 0 0;customer a;bundle 0 0 9 9 9;time 0 0 0 99");
+        x.advance(3);
+        x.saveState(0);
+        Check.equal("stalls", x.stallCount(0), 2);
+        x.steamAfter(9);
+        Check.equal("predicted ones do not count", x.stallCount(0), 2);
+        x.undo();
+        Check.equal("undone", x.stallCount(0), 0);
+        x.restoreState(0);
+        Check.equal("restored", x.stallCount(0), 2);
+        x.advance(1);
+        Check.equal("one more", x.stallCount(0), 3);
+        x.undo();
+        Check.equal("one less", x.stallCount(0), 2);
     }
 
     private static void promise21FirstAndLastLease() {
@@ -475,8 +493,8 @@ public final class BoundaryCallTest {
     // ---- promises 47 to 50: predictions
 
     private static void promises47And48Minutes() {
-        RollerLease x = Check.load("boiler 500 1;roller 1 2 3 0;customer a;bundle 0 0 200 9 9;bundle 0 1 200 9 9;time 0 0 0 200;"
-                + "time 0 0 200 200");
+        RollerLease x = Check.load("boiler 500 1;roller 1 2 3 0;customer a;bundle 0 0 200 9 9;"
+                + "bundle 0 1 200 9 9;time 0 0 0 200;time 0 0 200 200");
         Check.equal("steamAfter(0)", x.steamAfter(0), 500);
         Check.equal("steamAfter(1)", x.steamAfter(1), 499);
         Check.equal("steamAfter(300)", x.steamAfter(300), 200);
@@ -540,63 +558,51 @@ public final class BoundaryCallTest {
 
     // ---- promises 51 to 54: the output
 
-    private static void schedule(RollerLease x, int roller, int from, String due) {
-        Check.equal("the length", x.writeSchedule(roller, from), 20);
-        Check.same("the schedule of " + roller + " from " + from, Check.output(x, 20), due);
-    }
-
     private static void promise51From() {
         RollerLease x = Check.load(SIX);
-        schedule(x, 0, 0, "....................");
-        schedule(x, 5, 1000, "....................");
+        Check.written(x, x.writeSchedule(0, 0), "....................");
+        Check.written(x, x.writeSchedule(5, 1000), "....................");
         x.leaseByTime(5, 5, 999, 1);
         x.leaseByTime(0, 5, 0, 1);
         x.leaseByTime(1, 5, 20, 1);
-        schedule(x, 5, 0, "a...................");
-        schedule(x, 5, 1, "...................b");
-        schedule(x, 5, 980, "...................u");
-        schedule(x, 5, 979, "....................");
-        schedule(x, 5, 999, "u...................");
-        schedule(x, 5, 1000, "....................");
-        schedule(x, 0, 0, "....................");
+        Check.written(x, x.writeSchedule(5, 0), "a...................");
+        Check.written(x, x.writeSchedule(5, 1), "...................b");
+        Check.written(x, x.writeSchedule(5, 980), "...................u");
+        Check.written(x, x.writeSchedule(5, 979), "....................");
+        Check.written(x, x.writeSchedule(5, 999), "u...................");
+        Check.written(x, x.writeSchedule(5, 1000), "....................");
+        Check.written(x, x.writeSchedule(0, 0), "....................");
         Check.refused(x, "from -1", ARGUMENT, () -> x.writeSchedule(0, -1));
         Check.refused(x, "from 1001", ARGUMENT, () -> x.writeSchedule(0, 1001));
         Check.refused(x, "from the greatest", ARGUMENT, () -> x.writeSchedule(0, MAX));
         x.advance(300);
-        schedule(x, 5, 0, "a...................");
-    }
-
-    private static void written(RollerLease x, int bundle, String due) {
-        int length = x.writeBundle(bundle);
-        Check.equal("the length", length, due.length());
-        Check.same("bundle " + bundle + " in minute " + x.minute(), Check.output(x, length), due);
+        Check.written(x, x.writeSchedule(5, 0), "a...................");
     }
 
     private static void promise52Asterisks() {
-        RollerLease x = Check.load("boiler 500 50;roller 1 9 0 0;customer a;bundle 0 0 11 8 10;bundle 0 99 200 9 0;time 0 0 0 11");
-        written(x, 1, "99:200");
+        RollerLease x = Check.load("boiler 500 50;roller 1 9 0 0;customer a;bundle 0 0 11 8 10;"
+                + "bundle 0 99 200 9 0;time 0 0 0 11");
+        Check.written(x, x.writeBundle(1), "99:200");
         String asterisks = "";
         for (int minute = 0; minute < 10; minute++) {
-            written(x, 0, "0:" + (11 - minute) + asterisks);
+            Check.written(x, x.writeBundle(0), "0:" + (11 - minute) + asterisks);
             x.advance(1);
             asterisks = minute < 9 ? asterisks + "*" : asterisks;
         }
-        written(x, 0, "0:1*********");
-        written(x, 1, "99:200!");
+        Check.written(x, x.writeBundle(0), "0:1*********");
+        Check.written(x, x.writeBundle(1), "99:200!");
         x.advance(1);
         Check.equal("eleven minutes", x.bundleScorch(0), 11);
-        written(x, 0, "0:0!*********");
+        Check.written(x, x.writeBundle(0), "0:0!*********");
         RollerLease most = Check.load(LEAST + ";bundle 0 10 200 9 9;bundle 0 1 200 9 9;merge 0 1");
-        written(most, 0, "10:400");
+        Check.written(most, most.writeBundle(0), "10:400");
     }
 
     private static void promise53OneAndSix() {
         RollerLease one = Check.load(LEAST);
-        Check.equal("one customer", one.writeBills(), 3);
-        Check.same("the bill", Check.output(one, 3), "a=0");
+        Check.written(one, one.writeBills(), "a=0");
         RollerLease six = Check.load(SIX + ";time 5 5 0 200;advance 200");
-        Check.equal("six customers", six.writeBills(), 31);
-        Check.same("the bills", Check.output(six, 31), "a=0 b=0 c=0 d=0 e=0 uvwxyz=1400");
+        Check.written(six, six.writeBills(), "a=0 b=0 c=0 d=0 e=0 uvwxyz=1400");
     }
 
     private static void promise54Bytes() {

@@ -106,7 +106,8 @@ public final class BoundaryMinuteTest {
         Check.equal("a lease of one minute", one.activeLease(0), 0);
         charged(one, 10, 0);
         Check.equal("behind it", one.activeLease(0), -1);
-        RollerLease last = Check.load("boiler 10 0;roller 1 1 10 0;customer a;time 0 0 999 1;repeat 3(advance 300);advance 98");
+        RollerLease last = Check.load("boiler 10 0;roller 1 1 10 0;customer a;time 0 0 999 1;"
+                + "repeat 3(advance 300);advance 98");
         Check.equal("before the last minute", last.activeLease(0), -1);
         charged(last, 0);
         Check.equal("in the last minute", last.activeLease(0), 0);
@@ -115,8 +116,8 @@ public final class BoundaryMinuteTest {
     }
 
     private static void leasesThatMeet() {
-        RollerLease x = Check.load("boiler 10 0;roller 1 1 10 0;roller 1 1 7 0;customer a;customer b;time 1 0 1 1;time 0 0 0 1;"
-                + "time 0 1 0 2");
+        RollerLease x = Check.load("boiler 10 0;roller 1 1 10 0;roller 1 1 7 0;customer a;customer b;"
+                + "time 1 0 1 1;time 0 0 0 1;time 0 1 0 2");
         int[] active = {1, 0, -1};
         for (int lease : active) {
             Check.equal("activeLease(0) in minute " + x.minute(), x.activeLease(0), lease);
@@ -128,8 +129,8 @@ public final class BoundaryMinuteTest {
 
     private static void endsOfLeasesByLength() {
         int[][] minutes = {
-            {1, 1, 1}, {1, 200, 200}, {2, 1, 1}, {2, 2, 1}, {2, 3, 2}, {2, 199, 100}, {2, 200, 100}, {3, 200, 67},
-            {7, 7, 1}, {7, 8, 2}, {8, 200, 25}, {9, 1, 1}, {9, 8, 1}, {9, 9, 1}, {9, 10, 2}, {9, 198, 22}, {9, 199, 23}, {9, 200, 23},
+            {1, 1, 1}, {1, 200, 200}, {2, 1, 1}, {2, 2, 1}, {2, 3, 2}, {2, 199, 100}, {2, 200, 100}, {3, 200, 67}, {7, 7, 1},
+            {7, 8, 2}, {8, 200, 25}, {9, 1, 1}, {9, 8, 1}, {9, 9, 1}, {9, 10, 2}, {9, 198, 22}, {9, 199, 23}, {9, 200, 23},
         };
         for (int[] row : minutes) {
             String what = row[1] + " yards at a speed of " + row[0];
@@ -137,7 +138,8 @@ public final class BoundaryMinuteTest {
             Check.equal("the end of " + what, x.leaseEnd(0), 5 + row[2]);
             Check.equal("leaseByLength", x.leaseByLength(0, 0, 1000 - row[2], row[1]), 1);
             Check.equal("the last end of " + what, x.leaseEnd(1), 1000);
-            Check.refused(x, "one later: " + what, IllegalArgumentException.class, () -> x.leaseByLength(0, 0, 1001 - row[2], row[1]));
+            Check.refused(x, "one later: " + what, IllegalArgumentException.class,
+                    () -> x.leaseByLength(0, 0, 1001 - row[2], row[1]));
         }
     }
 
@@ -222,7 +224,10 @@ public final class BoundaryMinuteTest {
 
     private static void leastOfSpeedBundleAndLease() {
         // {yards of the bundle, yards of the lease (0: by time), processed in the first minute at a speed of 5}
-        int[][] cases = {{4, 0, 4}, {5, 0, 5}, {6, 0, 5}, {1, 0, 1}, {9, 4, 4}, {9, 5, 5}, {9, 6, 5}, {3, 4, 3}, {4, 3, 3}, {5, 5, 5}, {1, 1, 1}};
+        int[][] cases = {
+            {4, 0, 4}, {5, 0, 5}, {6, 0, 5}, {1, 0, 1},
+            {9, 4, 4}, {9, 5, 5}, {9, 6, 5}, {3, 4, 3}, {4, 3, 3}, {5, 5, 5}, {1, 1, 1},
+        };
         for (int[] row : cases) {
             String lease = row[1] == 0 ? ";time 0 0 0 9" : ";length 0 0 0 " + row[1];
             RollerLease x = Check.load("boiler 99 0;roller 5 1 0 2;customer a;bundle 0 0 " + row[0] + " 9 9" + lease);
@@ -236,7 +241,8 @@ public final class BoundaryMinuteTest {
 
     private static void heatAtTheLimit() {
         for (int limit = 1; limit <= 9; limit++) {
-            RollerLease x = Check.load("boiler 99 0;roller 1 5 0 0;customer a;bundle 0 0 3 " + limit + " 9;time 0 0 0 9;advance 4");
+            RollerLease x = Check.load("boiler 99 0;roller 1 5 0 0;customer a;bundle 0 0 3 " + limit + " 9;"
+                    + "time 0 0 0 9;advance 4");
             Check.equal("heat 5 with a limit of " + limit, x.bundleScorch(0), limit < 5 ? 3 : 0);
         }
         // A minute in which it stalls is none in which it is scorched.
@@ -246,7 +252,8 @@ public final class BoundaryMinuteTest {
     }
 
     private static void finishingMinutes() {
-        RollerLease x = Check.load("boiler 99 0;roller 2 1 0 0;customer a;bundle 0 0 2 9 9;bundle 0 1 3 9 9;time 0 0 0 2;time 0 0 999 1");
+        RollerLease x = Check.load("boiler 99 0;roller 2 1 0 0;customer a;bundle 0 0 2 9 9;bundle 0 1 3 9 9;"
+                + "time 0 0 0 2;time 0 0 999 1");
         Check.equal("not finished", x.bundleFinish(0), -1);
         x.advance(1);
         Check.equal("finished in minute 0", x.bundleFinish(0), 1);
@@ -269,7 +276,8 @@ public final class BoundaryMinuteTest {
         Check.equal("finished a minute later", Check.load(bundle + "1;advance 9").lateCount(), 1);
         Check.equal("at the deadline it is not late yet", Check.load(bundle + "1;advance 1").lateCount(), 0);
         Check.equal("finished behind a deadline of 0", Check.load(bundle + "0;advance 1").lateCount(), 1);
-        RollerLease never = Check.load("boiler 99 0;roller 1 1 0 0;customer a;bundle 0 0 2 9 0;bundle 0 1 2 9 1;bundle 0 2 2 9 999");
+        RollerLease never = Check.load("boiler 99 0;roller 1 1 0 0;customer a;bundle 0 0 2 9 0;bundle 0 1 2 9 1;"
+                + "bundle 0 2 2 9 999");
         int[] late = {0, 1, 2, 2};
         for (int due : late) {
             Check.equal("late in minute " + never.minute(), never.lateCount(), due);
@@ -302,8 +310,8 @@ public final class BoundaryMinuteTest {
     }
 
     private static void serviceOfTheMost() {
-        RollerLease x = Check.load("boiler 500 50;roller 1 1 2 0;customer a;bundle 0 0 200 9 9;time 0 0 0 200;service 0 99;pause 20;"
-                + "advance 98");
+        RollerLease x = Check.load("boiler 500 50;roller 1 1 2 0;customer a;bundle 0 0 200 9 9;time 0 0 0 200;"
+                + "service 0 99;pause 20;advance 98");
         idle(x, 0);
         x.advance(1);
         for (int left = 20; left >= 1; left--) {
@@ -337,8 +345,8 @@ public final class BoundaryMinuteTest {
     // ---- section 5: bundles and the working order
 
     private static void leastAndGreatestTag() {
-        RollerLease x = Check.load("boiler 99 0;roller 9 1 0 0;customer a;customer b;bundle 0 99 9 9 9;bundle 1 0 9 9 9;bundle 0 1 9 9 9;"
-                + "bundle 0 98 9 9 9;time 0 0 0 9");
+        RollerLease x = Check.load("boiler 99 0;roller 9 1 0 0;customer a;customer b;bundle 0 99 9 9 9;"
+                + "bundle 1 0 9 9 9;bundle 0 1 9 9 9;bundle 0 98 9 9 9;time 0 0 0 9");
         int[] order = {2, 3, 0};
         for (int bundle : order) {
             Check.equal("the least tag", x.nextBundle(0), bundle);
@@ -381,8 +389,8 @@ public final class BoundaryMinuteTest {
     }
 
     private static void minutesBehindTheLast() {
-        RollerLease x = Check.load("boiler 20 1;roller 1 9 5 5;customer a;bundle 0 0 200 9 9;time 0 0 800 200;holiday 999 999;"
-                + "rate 0 999 200;repeat 3(advance 300);advance 98");
+        RollerLease x = Check.load("boiler 20 1;roller 1 9 5 5;customer a;bundle 0 0 200 9 9;time 0 0 800 200;"
+                + "holiday 999 999;rate 0 999 200;repeat 3(advance 300);advance 98");
         charged(x, 10, 0, 0);
         idle(x, 1);
         Check.equal("minute", x.minute(), 1001);

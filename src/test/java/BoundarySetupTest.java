@@ -257,7 +257,9 @@ public final class BoundarySetupTest {
         Check.refuses(SYNTAX, LEAST + ";customer ^" + "z".repeat(400));
         Check.refuses(RANGE, LEAST + ";customer ^abcdefgh");
         // Beside the lower-case letters, the digits and the signs stand bytes that start no token.
-        String[] others = {"`", "{", "/", ":", "'", "*", "<", "\u001f", "!", "A", "Z", "\u007f", "\u0080", "\u00e9", "\u0000", "\n"};
+        String[] others = {
+            "`", "{", "/", ":", "'", "*", "<", "!", "A", "Z", "\n", "\u0000", "\u001f", "\u007f", "\u0080", "\u00e9",
+        };
         for (String other : others) {
             Check.refuses(SYNTAX, "boiler 10 0^" + other);
             Check.refuses(SYNTAX, "boiler 10 ^" + other);
@@ -270,7 +272,8 @@ public final class BoundarySetupTest {
     }
 
     private static void leadingZeros() {
-        RollerLease x = Check.load("boiler 010 000;roller 001 09 000 050;customer a;bundle 00 007 001 009 000;time 000 00 009 001");
+        RollerLease x = Check.load("boiler 010 000;roller 001 09 000 050;customer a;bundle 00 007 001 009 000;"
+                + "time 000 00 009 001");
         Check.equal("capacity", x.steamCapacity(), 10);
         Check.equal("heat", x.rollerHeat(0), 9);
         Check.equal("price", x.yardPrice(0), 50);
@@ -592,7 +595,8 @@ public final class BoundarySetupTest {
         Check.refuses(LIMIT, LEAST + ";repeat 5(^rate 0 0 99)");
         Check.refuses(LIMIT, LEAST + ";repeat 5(repeat 2(advance ^201))");
         Check.equal("2000 minutes", Check.load(LEAST + ";repeat 5(repeat 2(advance 200))").minute(), 2000);
-        Check.equal("1 and 15 bundles", Check.load(LEAST + ";bundle 0 1 200 1 1;repeat 5(repeat 3(split 0 1))").bundleCount(), 16);
+        RollerLease x = Check.load(LEAST + ";bundle 0 1 200 1 1;repeat 5(repeat 3(split 0 1))");
+        Check.equal("1 and 15 bundles", x.bundleCount(), 16);
         Check.refuses(LIMIT, bundles(1) + ";bundle 0 1 200 1 1;repeat 5(repeat 3(^split 1 1))");
     }
 

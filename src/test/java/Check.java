@@ -130,6 +130,12 @@ final class Check {
         equal("the buffer after " + marked, x.bufferLength(), 0);
     }
 
+    /** The length is what a writing method has answered. */
+    static void written(RollerLease x, int length, String due) {
+        equal("the length of " + due, length, due.length());
+        same("the output", output(x, length), due);
+    }
+
     static String output(RollerLease x, int length) {
         StringBuilder text = new StringBuilder();
         for (int i = 0; i < length; i++) {

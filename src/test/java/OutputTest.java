@@ -9,8 +9,7 @@ public final class OutputTest {
     }
 
     private static void schedule(RollerLease x, int roller, int from, String due) {
-        Check.equal("the length of a schedule", x.writeSchedule(roller, from), 20);
-        Check.same("the schedule of " + roller + " from " + from, Check.output(x, 20), due);
+        Check.written(x, x.writeSchedule(roller, from), due);
     }
 
     private static void promise51WriteSchedule() {
@@ -32,9 +31,7 @@ public final class OutputTest {
     }
 
     private static void bundle(RollerLease x, int bundle, String due) {
-        int length = x.writeBundle(bundle);
-        Check.equal("the length of a bundle", length, due.length());
-        Check.same("bundle " + bundle + " in minute " + x.minute(), Check.output(x, length), due);
+        Check.written(x, x.writeBundle(bundle), due);
     }
 
     private static void promise52WriteBundle() {
@@ -64,14 +61,11 @@ public final class OutputTest {
 
     private static void promise53WriteBills() {
         RollerLease x = Check.load("boiler 500 0;roller 2 5 50 0;customer ann;customer b;customer zzzzzz;time 2 0 0 200;time 1 0 200 3");
-        Check.equal("the length of the bills", x.writeBills(), 18);
-        Check.same("the bills", Check.output(x, 18), "ann=0 b=0 zzzzzz=0");
+        Check.written(x, x.writeBills(), "ann=0 b=0 zzzzzz=0");
         x.advance(202);
-        Check.equal("the length of the bills", x.writeBills(), 24);
-        Check.same("the bills", Check.output(x, 24), "ann=0 b=100 zzzzzz=10000");
+        Check.written(x, x.writeBills(), "ann=0 b=100 zzzzzz=10000");
         RollerLease one = Check.load("boiler 500 0;roller 2 5 3 0;customer q;time 0 0 0 200;advance 9");
-        Check.equal("the length of one bill", one.writeBills(), 4);
-        Check.same("one bill", Check.output(one, 4), "q=27");
+        Check.written(one, one.writeBills(), "q=27");
     }
 
     private static void promise54OutputByte() {
